@@ -2,7 +2,7 @@ import java.util.Random;
 
 /** Runs of calls drawn from fixed seeds: the program must answer as the model does, all through. */
 public final class ModelTest {
-    private static final int RUNS = 1500;
+    private static final int RUNS = 400;
     private static final int CALLS = 512;
     private static final int[] ODD = {Integer.MIN_VALUE, Integer.MAX_VALUE, -1, 0, 1, 1000, 1001, 1 << 30, 1 << 31};
 
