@@ -10,6 +10,7 @@ public final class WeightsTest {
         promise22RemoveWeight();
         promise22NumbersDecrease();
         promise23Weight();
+        promise23LongestChain();
         promise24CalibrationErrors();
         promise24Calibration();
         promise24OfABentSpring();
@@ -102,6 +103,20 @@ public final class WeightsTest {
         for (int[] w : wrong) {
             Check.due("weight out of range", b.weight(w[0], w[1]), INVALID);
         }
+    }
+
+    private static void promise23LongestChain() {
+        SpringBalance b = new SpringBalance();
+        for (int i = 0; i < 8; i++) {
+            b.addWeight(1 + i, i - 9, 1000, i - 1);
+        }
+        int[][] due = {{1, -9, 1000, -1, 0, -9, 1000, 1, 8}, {2, -8, 1000, 0, 0, -17, 2000, 2, 7}};
+        properties(b, due);
+        int[] last = {8, -2, 1000, 6, 0, -44, 8000, 8, 1};
+        for (int what = 0; what < last.length; what++) {
+            Check.due("weight(7, " + what + ")", b.weight(7, what), last[what]);
+        }
+        Check.due("all of the last five", b.calibration(248, 13), 4000 + 5000 + 6000 + 7000 + 8000);
     }
 
     private static void promise24CalibrationErrors() {
