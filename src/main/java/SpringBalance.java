@@ -20,8 +20,9 @@ public final class SpringBalance {
     private static final int TOP_HOURS = 200;
 
     // Turning loads lie one inside the other, so all of them and the present load are different
-    // numbers from 0 to 1000.
-    private static final int TURN_ROOM = 1000;
+    // numbers from 0 to 1000. The present load becomes one of them before any is forgotten, so that
+    // for a moment they can be every load there is.
+    private static final int TURN_ROOM = TOP_LOAD + 1;
     private static final int CURVE_ROOM = 8;
     private static final int SCALE_ROOM = 6;
     private static final int FEWEST_BREAKS = 2;
