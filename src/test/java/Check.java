@@ -2,6 +2,8 @@
 final class Check {
     private static int compared = 0;
     private static int wrong = 0;
+    private static String sentence = "";
+    private static int comparedBefore = -1;
 
     private Check() {
     }
@@ -9,10 +11,34 @@ final class Check {
     static void due(String call, long got, long want) {
         compared++;
         if (got != want) {
-            wrong++;
-            if (wrong <= 50) {
-                System.out.println(call + " answered " + got + ", due is " + want);
-            }
+            fail(call + " answered " + got + ", due is " + want);
+        }
+    }
+
+    static void same(String what, String got, String want) {
+        compared++;
+        if (!got.equals(want)) {
+            fail(what + ":\n  found  " + got + "\n  due is " + want);
+        }
+    }
+
+    private static void fail(String words) {
+        wrong++;
+        if (wrong <= 50) {
+            System.out.println(sentence + words);
+        }
+    }
+
+    /** What is compared from here on holds these words of the document. */
+    static void says(String section, String words) {
+        closeSentence();
+        sentence = "[" + section + ": " + words + "] ";
+        comparedBefore = compared;
+    }
+
+    private static void closeSentence() {
+        if (comparedBefore == compared) {
+            fail("nothing was compared");
         }
     }
 
@@ -35,6 +61,7 @@ final class Check {
     }
 
     static void finish() {
+        closeSentence();
         System.out.println(compared + " answers compared, " + wrong + " wrong");
         if (wrong != 0 || compared == 0) {
             System.exit(1);
