@@ -57,6 +57,16 @@ public final class ChangesEdgesTest extends Edges {
         b.setLoad(0);
     }
 
+    /** No two weights are alike in anything; 1 is the parent of 2 and of 3, and 3 that of 4. */
+    private static void family(Balance b) {
+        b.addWeight(11, 1, 10, -1);
+        b.addWeight(12, 2, 20, -1);
+        b.addWeight(13, 3, 30, 1);
+        b.addWeight(14, 4, 40, 1);
+        b.addWeight(15, 5, 50, 3);
+        b.put(3);
+    }
+
     private static void eachChangeIsRecorded() {
         says("Changes and errors", "The changes are the calls of setLoad, put, take, ... that return no error");
         changes(528, ChangesEdgesTest::loaded, b -> b.setLoad(500));
@@ -74,6 +84,9 @@ public final class ChangesEdgesTest extends Edges {
         changes(2, ChangesEdgesTest::loaded, b -> b.set(2, 50));
         changes(2, ChangesEdgesTest::loaded, b -> b.addWeight(1, 1, 1, 1));
         changes(1, ChangesEdgesTest::loaded, b -> b.removeWeight(1));
+        changes(4, ChangesEdgesTest::family, b -> b.removeWeight(0));
+        changes(4, ChangesEdgesTest::family, b -> b.removeWeight(2));
+        changes(4, ChangesEdgesTest::family, b -> b.removeWeight(4));
         changes(2, ChangesEdgesTest::loaded, b -> b.adopt(2));
         changes(3, b -> {
             loaded(b);
@@ -103,7 +116,7 @@ public final class ChangesEdgesTest extends Edges {
     }
 
     private static void noOtherCallIsAChange() {
-        says("Changes and errors", "The changes are the calls of ... (and no others)");
+        says("Changes and errors", "The changes are the calls of setLoad, put, take, ... [and of nothing else]");
         Balance b = after(ChangesEdgesTest::ready);
         String before = b.bench();
         b.curve(0, 5);
@@ -167,7 +180,7 @@ public final class ChangesEdgesTest extends Edges {
     }
 
     private static void droppedAgainAndAgain() {
-        says("Changes and errors", "the oldest one is dropped (between undos, again and again)");
+        says("Changes and errors", "the oldest one is dropped [again and again, with undos between]");
         for (int undos = 1; undos <= 5; undos++) {
             Balance b = new Balance();
             Deque<Integer> kept = new ArrayDeque<>();
@@ -213,7 +226,7 @@ public final class ChangesEdgesTest extends Edges {
     }
 
     private static void statesOfTheGreatestSize() {
-        says("Changes and errors", "each change records everything (with every row as long as it can be)");
+        says("Changes and errors", "each change records everything before it [with all rows as long as they can be]");
         changes(6, ChangesEdgesTest::full, b -> b.setBreak(0, 0));
         changes(7, b -> {
             full(b);

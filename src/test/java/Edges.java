@@ -3,7 +3,7 @@ import java.util.List;
 import java.util.function.Consumer;
 import java.util.function.ToIntFunction;
 
-/** What the tests of boundary cases share. Each of their methods begins with the words of the document that it holds. */
+/** What the tests of boundary cases share. Each of their methods begins with the words that it holds. */
 abstract class Edges {
     static final int INVALID = SpringBalance.INVALID_ARGUMENT;
     static final int IMPOSSIBLE = SpringBalance.NOT_POSSIBLE;

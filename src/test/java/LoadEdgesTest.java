@@ -57,7 +57,7 @@ public final class LoadEdgesTest extends Edges {
     }
 
     private static void promise1Constants() {
-        says("The constants", "INVALID_ARGUMENT, NOT_POSSIBLE, LIMIT_REACHED, NOT_FOUND");
+        says("The constants", "INVALID_ARGUMENT = -2000000001 ... NOT_POSSIBLE ... LIMIT_REACHED ... NOT_FOUND");
         due(SpringBalance.INVALID_ARGUMENT, -2000000001);
         due(SpringBalance.NOT_POSSIBLE, -2000000002);
         due(SpringBalance.LIMIT_REACHED, -2000000003);
@@ -259,7 +259,8 @@ public final class LoadEdgesTest extends Edges {
     }
 
     private static void promise6ForgetsAll() {
-        says("Promise 6", "Forgets all turning points, the way, the creep and the account ... the extension becomes 0.");
+        says("Promise 6",
+            "Forgets all turning points, the way, the creep and the account ... the extension becomes 0.");
         Balance b = after(Edges::busy);
         b.take(1);
         b.setLoad(0);
@@ -357,7 +358,7 @@ public final class LoadEdgesTest extends Edges {
     }
 
     private static void promise8LeastAndGreatest() {
-        says("Promise 8", "Returns a number. (Each of them as small and as great as it can be.)");
+        says("Promise 8", "Returns a number. [each of them as small and as great as it can be]");
         Balance b = new Balance();
         for (int i = 0; i < 8; i++) {
             b.addWeight(125, 0, 0, -1);

@@ -24,6 +24,7 @@ public final class ManyTurnsTest {
     }
 
     public static void main(String[] args) {
+        Check.says("Spring", "as long as there are at least two turning points [and they fill the loads from 0 to 1000]");
         for (int shape = 0; shape < CURVES.length; shape++) {
             everyTurningLoadIsThere(shape);
             everyWayOut(shape);

@@ -87,7 +87,8 @@ public final class SpringAndScaleEdgesTest extends Edges {
     }
 
     private static void scaleStrictlyIncreasing() {
-        says("Scale", "both strictly increasing from break to break (places from -1000 to 30000, readings from 0 to 1000)");
+        says("Scale",
+            "both strictly increasing from break to break (places from -1000 to 30000, readings from 0 to 1000)");
         Balance b = new Balance();
         due(b.setBreak(-1000, 0), IMPOSSIBLE);
         due(b.setBreak(0, 1), 2);
@@ -159,7 +160,7 @@ public final class SpringAndScaleEdgesTest extends Edges {
     }
 
     private static void promise12Ranges() {
-        says("Promise 12", "`load`: 1 to 1000 `extension`: 1 to 20000 ... Returns the number of points");
+        says("Promise 12", "`load`: 1 to 1000 ... `extension`: 1 to 20000 ... Returns the number of points");
         Balance b = new Balance();
         due(b.setPoint(1, 1), 3);
         due(b.entry(0, 1), 1);
@@ -204,7 +205,8 @@ public final class SpringAndScaleEdgesTest extends Edges {
     }
 
     private static void promise12OnlyUnturnedAtZero() {
-        says("Promise 12", "The balance must be at the load 0 without turning points. ... NOT_POSSIBLE if it is not so");
+        says("Promise 12",
+            "The balance must be at the load 0 without turning points. ... NOT_POSSIBLE if the balance is not so");
         refused(IMPOSSIBLE, SpringAndScaleEdgesTest::atOne, b -> b.setPoint(600, 3000));
         refused(IMPOSSIBLE, SpringAndScaleEdgesTest::atOne, b -> b.setPoint(500, 2000));
         refused(IMPOSSIBLE, SpringAndScaleEdgesTest::atZeroWithATurn, b -> b.setPoint(600, 3000));
@@ -273,7 +275,8 @@ public final class SpringAndScaleEdgesTest extends Edges {
     }
 
     private static void promise13OnlyUnturnedAtZero() {
-        says("Promise 13", "The balance must be at the load 0 without turning points. ... NOT_POSSIBLE if it is not so");
+        says("Promise 13",
+            "The balance must be at the load 0 without turning points. ... NOT_POSSIBLE if the balance is not so");
         refused(IMPOSSIBLE, SpringAndScaleEdgesTest::atOne, b -> b.removePoint(500));
         refused(IMPOSSIBLE, SpringAndScaleEdgesTest::atOne, b -> b.removePoint(499));
         refused(IMPOSSIBLE, SpringAndScaleEdgesTest::atZeroWithATurn, b -> b.removePoint(500));
@@ -298,7 +301,7 @@ public final class SpringAndScaleEdgesTest extends Edges {
     }
 
     private static void promise14Ranges() {
-        says("Promise 14", "`which`: 0 for V, 1 for F `load`: 0 to 1000");
+        says("Promise 14", "`which`: 0 for V, 1 for F ... `load`: 0 to 1000");
         Balance b = new Balance();
         b.setPoint(500, 2000);
         due(b.curve(0, 0), 0);
@@ -322,7 +325,7 @@ public final class SpringAndScaleEdgesTest extends Edges {
     }
 
     private static void promise15Ranges() {
-        says("Promise 15", "`place`: -1000 to 30000 `reading`: 0 to 1000 ... Returns the number of breaks");
+        says("Promise 15", "`place`: -1000 to 30000 ... `reading`: 0 to 1000 ... Returns the number of breaks");
         Balance b = new Balance();
         due(b.setBreak(0, 2), 2);
         due(b.setBreak(10000, 998), 2);
@@ -431,7 +434,7 @@ public final class SpringAndScaleEdgesTest extends Edges {
     }
 
     private static void promise17FirstAndLast() {
-        says("Promise 17", "`what`: 0: the load of a point; ... 3: its reading `index`: 0 for the first one, and so on");
+        says("Promise 17", "0: the load of a point; ... 3: its reading ... `index`: 0 for the first one, and so on");
         Balance b = after(c -> {
             eightPoints(c);
             sixBreaks(c);
@@ -548,7 +551,8 @@ public final class SpringAndScaleEdgesTest extends Edges {
     }
 
     private static void promise20Ranges() {
-        says("Promise 20", "dead zone (0 to 200, initially 5), rate (0 to 100, initially 10), step (0 to 50, initially 2)");
+        says("Promise 20",
+            "dead zone (0 to 200, initially 5) ... rate (0 to 100, initially 10) ... step (0 to 50, initially 2)");
         Balance b = new Balance();
         int[] first = {5, 10, 2};
         int[] most = {200, 100, 50};

@@ -347,7 +347,8 @@ public final class SpringEdgesTest extends Edges {
     }
 
     private static void creepByWhatIsMissing() {
-        says("Creep, pointer", "the creep goes towards load * rate / 100 by as much as is missing, but at most by the step");
+        says("Creep, pointer",
+            "the creep goes towards load * rate / 100 by as much as is missing, but at most by the step");
         int[][] up = {{0, 0, 0}, {1, 1, 2}, {4, 4, 5}, {5, 5, 5}, {6, 5, 5}, {50, 5, 5}};
         int[][] down = {{0, 5, 5}, {1, 4, 3}, {4, 1, 0}, {5, 0, 0}, {6, 0, 0}, {50, 0, 0}};
         for (int i = 0; i < up.length; i++) {
@@ -410,7 +411,8 @@ public final class SpringEdgesTest extends Edges {
     }
 
     private static void pointerAboveTheDeadZone() {
-        says("Creep, pointer", "if it is greater than the pointer plus the dead zone, the pointer comes to the reach minus");
+        says("Creep, pointer",
+            "if it is greater than the pointer plus the dead zone, the pointer comes to the reach minus");
         Balance b = withSmallSteps();
         b.set(1, 0);
         b.hours(12);
@@ -434,7 +436,7 @@ public final class SpringEdgesTest extends Edges {
     }
 
     private static void pointerAtTheEndsOfTheDeadZone() {
-        says("Creep, pointer", "the pointer plus the dead zone ... the pointer minus the dead zone (0 and 200)");
+        says("Creep, pointer", "the pointer plus the dead zone ... the pointer minus the dead zone [of 0 and of 200]");
         Balance b = new Balance();
         b.set(0, 0);
         b.setLoad(1);
@@ -520,7 +522,7 @@ public final class SpringEdgesTest extends Edges {
     }
 
     private static void accountWhenTheLoadChanges() {
-        says("Losses", "Whenever the load changes, the account grows by (old load + new load) * (new - old extension)");
+        says("Losses", "Whenever the load changes, the account grows by (old load + new load) * (new extension - ...");
         Balance b = new Balance();
         b.setLoad(1);
         due(b.account(), 10);
@@ -536,7 +538,7 @@ public final class SpringEdgesTest extends Edges {
     }
 
     private static void accountFallsBelowTheInts() {
-        says("Losses", "the account grows by (old load + new load) * (new extension - old extension) (to below -2^31)");
+        says("Losses", "the account grows by (old load + new load) * (new extension - old extension) [to below ints]");
         Balance b = new Balance();
         b.setPoint(1000, 20000);
         b.setPoint(1, 19000);
@@ -551,7 +553,7 @@ public final class SpringEdgesTest extends Edges {
     }
 
     private static void accountGrowsAboveTheInts() {
-        says("Losses", "the account grows by (old load + new load) * (new extension - old extension) (to above 2^31)");
+        says("Losses", "the account grows by (old load + new load) * (new extension - old extension) [to above ints]");
         Balance b = new Balance();
         b.setPoint(1000, 20000);
         b.setPoint(500, 19000);

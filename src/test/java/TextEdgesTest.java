@@ -23,6 +23,8 @@ public final class TextEdgesTest extends Edges {
         promise29NoMoves();
         promise29MostMoves();
         promise29UntilOneIsRefused();
+        promise29RefusedMoveChangesNothing();
+        promise29LeastAndGreatestMoves();
         promise29OneChange();
         promise30NoneWasRefused();
         promise30NoSuchWeight();
@@ -219,11 +221,11 @@ public final class TextEdgesTest extends Edges {
     }
 
     private static void promise28AtTheEnd() {
-        says("Promise 28", "Returns the fault of the text (with each character that is typed)");
+        says("Promise 28", "Returns the fault of the text [behind each character that is typed]");
         Balance b = new Balance();
         String text = "z;=1000;h200;+9;-01";
-        int[] dues = {MISSING, 0, 2, MISSING, MISSING, MISSING, MISSING, 2, 8, MISSING, MISSING, MISSING, 8, 13, MISSING,
-            13, 16, MISSING, 16};
+        int[] dues = {MISSING, 0, 2, MISSING, MISSING, MISSING, MISSING, 2, 8, MISSING, MISSING, MISSING, 8, 13,
+            MISSING, 13, 16, MISSING, 16};
         for (int i = 0; i < dues.length; i++) {
             b.type(text.charAt(i));
             due(b.fault(), dues[i]);
@@ -245,7 +247,7 @@ public final class TextEdgesTest extends Edges {
     }
 
     private static void promise29NoMoves() {
-        says("Promise 29", "Returns the number of moves that were carried out (none)");
+        says("Promise 29", "Returns the number of moves that were carried out [none of them]");
         Balance b = new Balance();
         due(b.move(), 0);
         due(b.count(9), 1);
@@ -259,7 +261,7 @@ public final class TextEdgesTest extends Edges {
     }
 
     private static void promise29MostMoves() {
-        says("Promise 29", "Carries out the moves of the text ... one after the other (as many as there can be)");
+        says("Promise 29", "Carries out the moves of the text ... one after the other [as many as there can be]");
         Balance b = new Balance();
         b.write("z;".repeat(39) + "z");
         due(b.count(10), 79);
@@ -291,6 +293,54 @@ public final class TextEdgesTest extends Edges {
         b.write("=5;=6");
         due(b.move(), 2);
         due(b.count(0), 6);
+    }
+
+    private static void promise29RefusedMoveChangesNothing() {
+        says("Promise 29", "until one is refused [which changes nothing, and none behind it is carried out]");
+        String[][] texts = {{"=700;h3;=300", ";+7;=9"}, {"=700;h3;=300", ";-3;=9"}, {"=700;=600", ";+1;=9"},
+            {"+0;=700;h3", ";+0;=9"}, {"=700;=300", ";-0;=9"}, {"=900;=600", ";+0;=9"},
+            {"=5;+0;=700;=600", ";=499;=900"}, {"=700;h200;=1", ";z;=9"}, {"=1000;=0;z;=1000;h9", ";z;=9"}};
+        for (String[] text : texts) {
+            Balance left = with(text[0]);
+            left.addWeight(500, 0, 0, -1);
+            due(left.move(), text[0].split(";").length);
+            Balance b = with(text[0] + text[1]);
+            b.addWeight(500, 0, 0, -1);
+            due(b.move(), text[0].split(";").length);
+            Check.same("behind " + text[0] + text[1], b.bench(), left.bench());
+            due(b.undo(), 1);
+            left.undo();
+            Check.same("undone, " + text[0] + text[1], b.bench(), left.bench());
+        }
+    }
+
+    private static void promise29LeastAndGreatestMoves() {
+        says("Promise 29", "Carries out the moves of the text [the loads and hours at the ends of their ranges]");
+        Balance b = new Balance();
+        b.set(1, 100);
+        b.set(2, 1);
+        b.write("=1000;h200");
+        due(b.move(), 2);
+        counts(b, 1000, 10000, 200, 10195);
+        b.write("h1;h199");
+        due(b.move(), 2);
+        counts(b, 1000, 10000, 400, 10395);
+        b.write("=0;h1");
+        due(b.move(), 2);
+        counts(b, 0, 0, 399, 404);
+        b.write("=1;=999");
+        due(b.move(), 2);
+        counts(b, 999, 9990, 399, 10384);
+        b = after(c -> {
+            for (int i = 0; i < 8; i++) {
+                c.addWeight(1 << i, 0, 0, -1);
+            }
+        });
+        b.write("+7;+0;-7");
+        due(b.move(), 3);
+        due(b.count(0), 1);
+        due(b.weight(0, 4), 1);
+        due(b.count(8), 1);
     }
 
     private static void promise29OneChange() {
@@ -390,7 +440,8 @@ public final class TextEdgesTest extends Edges {
     }
 
     private static void promise30LatestOfAll() {
-        says("Promise 30", "why the latest move that was refused, of all that texts told since the balance was created");
+        says("Promise 30",
+            "why the latest move that was refused, of all that texts told since the balance was created");
         Balance b = new Balance();
         b.addWeight(500, 0, 0, -1);
         refuses(b, "+1", 0, 1);

@@ -106,7 +106,8 @@ public final class WeightEdgesTest extends Edges {
     }
 
     private static void loadAndTheMassesOnThePan() {
-        says("Weights", "The load is not less than the sum of the masses of the weights on the pan; it may be greater.");
+        says("Weights",
+            "The load is not less than the sum of the masses of the weights on the pan; it may be greater.");
         Balance b = after(weights(1, 500));
         b.put(0);
         b.put(1);
@@ -126,7 +127,8 @@ public final class WeightEdgesTest extends Edges {
     }
 
     private static void calibrationFromNoneToAll() {
-        says("Calibration", "For each number k of weights on the pan, from 0 to all, ... (for all of them both are the same)");
+        says("Calibration",
+            "For each number k of weights on the pan, from 0 to all, ... (for all of them both are the same)");
         Balance b = after(weights(200, 200, 200, 200, 200));
         calibrates(b, 31, 0, 1995, 3995, 5995, 7995, 9995, 5, 2005, 4005, 6005, 8005, 9995, 10, 0, 1);
         calibrates(b, 1, 0, 1995, MISSING, MISSING, MISSING, MISSING, 5, 1995, MISSING, MISSING, MISSING, MISSING, 5, 0,
@@ -137,10 +139,12 @@ public final class WeightEdgesTest extends Edges {
     }
 
     private static void calibrationByNumbers() {
-        says("Calibration", "put on one after the other by ascending numbers, then taken away ... in the opposite order");
+        says("Calibration",
+            "put on one after the other by ascending numbers, then taken away ... in the opposite order");
         Balance b = after(weights(7, 100, 8, 20, 3));
         b.set(0, 0);
-        calibrates(b, 2 + 8 + 16, 0, 1000, 1200, 1230, MISSING, MISSING, 0, 1000, 1200, 1230, MISSING, MISSING, 0, 0, 1);
+        calibrates(b, 2 + 8 + 16, 0, 1000, 1200, 1230, MISSING, MISSING, 0, 1000, 1200, 1230, MISSING, MISSING, 0, 0,
+            1);
         calibrates(b, 1 + 4, 0, 70, 150, MISSING, MISSING, MISSING, 0, 70, 150, MISSING, MISSING, MISSING, 0, 0, 1);
     }
 
@@ -157,7 +161,8 @@ public final class WeightEdgesTest extends Edges {
     }
 
     private static void calibrationWidth() {
-        says("Calibration", "the width is the greatest difference of both places, the one coming down minus the one going up");
+        says("Calibration",
+            "the width is the greatest difference of both places, the one coming down minus the one going up");
         Balance b = after(weights(500, 500, 300, 200));
         b.set(0, 0);
         due(b.calibration(3, 12), 0);
@@ -166,10 +171,14 @@ public final class WeightEdgesTest extends Edges {
         calibrates(b, 13, 0, 2000, 6800, 10000, MISSING, MISSING, 6000, 8000, 9200, 10000, MISSING, MISSING, 6000);
         b.setPoint(500, 8000);
         calibrates(b, 3, 0, 8000, 10000, MISSING, MISSING, MISSING, -6000, 2000, 10000, MISSING, MISSING, MISSING, 0);
+        b = after(weights(200, 200, 200, 200, 200));
+        b.set(0, 0);
+        b.setPoint(500, 8000);
+        calibrates(b, 31, 0, 3200, 6400, 8400, 9200, 10000, -6000, -2800, 400, 3600, 6800, 10000, 0);
     }
 
     private static void promise21Ranges() {
-        says("Promise 21", "`mass`: 1 to 500 `error`: -9 to 9 `variance`: 0 to 1000 ... Returns its number");
+        says("Promise 21", "`mass`: 1 to 500 ... `error`: -9 to 9 ... `variance`: 0 to 1000 ... Returns its number");
         Balance b = new Balance();
         due(b.addWeight(1, -9, 0, -1), 0);
         due(b.addWeight(500, 9, 1000, -1), 1);
@@ -318,7 +327,7 @@ public final class WeightEdgesTest extends Edges {
     }
 
     private static void promise23LeastAndGreatest() {
-        says("Promise 23", "5: its total error; 6: its total variance; 7: its depth (the longest chain)");
+        says("Promise 23", "5: its total error; 6: its total variance; 7: its depth [of the longest chain]");
         Balance b = after(WeightEdgesTest::longestChain);
         properties(b, 7, 500, 9, 1000, 6, 0, 72, 8000, 8, 1);
         properties(b, 0, 500, 9, 1000, -1, 0, 9, 1000, 1, 8);
@@ -442,7 +451,8 @@ public final class WeightEdgesTest extends Edges {
     }
 
     private static void promise24ScaleOfReadings() {
-        says("Promise 24", "14: 1 if the new breaks are a scale (... readings strictly increasing and in their ranges)");
+        says("Promise 24",
+            "14: 1 if the new breaks are a scale (... readings strictly increasing and in their ranges)");
         due(withErrors(8, -9).calibration(1, 14), 0);
         due(withErrors(9, -9).calibration(1, 14), 0);
         due(withErrors(10, -9).calibration(1, 14), 1);
@@ -465,7 +475,8 @@ public final class WeightEdgesTest extends Edges {
 
     /** With (1, p) on the curve and a weight of 500 the place coming down to nothing is about -p. */
     private static void promise24ScaleOfPlaces() {
-        says("Promise 24", "14: 1 if the new breaks are a scale (both places ... strictly increasing and in their ranges)");
+        says("Promise 24",
+            "14: 1 if the new breaks are a scale (both places ... strictly increasing and in their ranges)");
         due(isScale(0, 2008, 500), 1);
         due(isScale(0, 2009, 500), 0);
         due(isScale(0, 2010, 500), 0);
@@ -473,7 +484,14 @@ public final class WeightEdgesTest extends Edges {
         due(isScale(1, 1, 1), 0);
         due(isScale(200, 200, 1), 0);
         due(isScale(200, 201, 1), 1);
-        Balance b = after(weights(500, 500));
+        Balance b = after(weights(100, 1, 2));
+        b.setPoint(1000, 500);
+        due(b.calibration(1 + 2, 1), 45);
+        due(b.calibration(1 + 2, 2), 45);
+        due(b.calibration(1 + 2, 14), 0);
+        due(b.calibration(1 + 4, 2), 46);
+        due(b.calibration(1 + 4, 14), 1);
+        b = after(weights(500, 500));
         b.set(0, 0);
         b.setPoint(1000, 20000);
         due(b.calibration(3, 2), 20000);
